@@ -366,7 +366,7 @@ public final class StockGrid {
         if (begun == null || !isGood(good) || !ask(x1, y1, x2, y2)) {
             return NO_SUCH;
         }
-        return floor.sumOfPlane(begun.units, good * PLANE, asked);
+        return floor.sumWhenSaved(begun, good, asked);
     }
 
     // ---- units by order
@@ -603,34 +603,38 @@ public final class StockGrid {
         int acts;
     }
 
-    /** The borders of one axis, rising: from border i to the next one goes band i of lines. */
+    /**
+     * The borders of one axis, rising: from border i to the next one goes band i of lines. The
+     * place behind the last line stands behind the last border, but it is none.
+     */
     private static final class Cuts {
-        final int[] from = new int[MOST_PLANNED];
-        int size = 1;
-        int length = 1;
+        final int[] from = new int[MOST_PLANNED + 1];
+        int size;
+        int length;
 
         void clear(int newLength) {
             length = newLength;
             size = 1;
             from[0] = 0;
+            from[1] = newLength;
         }
 
         void copy(Cuts cuts) {
             length = cuts.length;
             size = cuts.size;
-            System.arraycopy(cuts.from, 0, from, 0, cuts.size);
+            System.arraycopy(cuts.from, 0, from, 0, cuts.size + 1);
         }
 
-        /** The place behind the last line is no border, and one that is there comes no more. */
+        /** A border that is there comes no more. */
         void put(int place) {
-            if (place <= 0 || place >= length || size >= from.length) {
+            if (place <= 0 || place >= length || size >= MOST_PLANNED) {
                 return;
             }
             int band = bandOf(place);
             if (from[band] == place) {
                 return;
             }
-            for (int i = size; i > band + 1; i--) {
+            for (int i = size + 1; i > band + 1; i--) {
                 from[i] = from[i - 1];
             }
             from[band + 1] = place;
@@ -652,18 +656,15 @@ public final class StockGrid {
             return low;
         }
 
-        /** The first line behind the band. */
-        int endOf(int band) {
-            return band + 1 < size ? from[band + 1] : length;
-        }
-
         int widthOf(int band) {
-            return endOf(band) - from[band];
+            return from[band + 1] - from[band];
         }
 
-        /** How many lines of the band are among those from low to high. */
+        /** How many lines of the band are among those from low to high; it has some of them. */
         int overlap(int band, int low, int high) {
-            return Math.max(0, Math.min(high + 1, endOf(band)) - Math.max(low, from[band]));
+            int first = from[band] < low ? low : from[band];
+            int end = from[band + 1] > high ? high + 1 : from[band + 1];
+            return end - first;
         }
     }
 
@@ -794,17 +795,17 @@ public final class StockGrid {
         /** A rectangle without any cell has none. */
         long sumOf(int good, Rect r) {
             if (good != NONE) {
-                return sumOfPlane(units, good * PLANE, r);
+                return sumBy(across.now, down.now, units, good * PLANE, r);
             }
             long total = 0;
             for (int each = 0; each < GOODS; each++) {
-                total += sumOfPlane(units, each * PLANE, r);
+                total += sumBy(across.now, down.now, units, each * PLANE, r);
             }
             return total;
         }
 
-        long sumOfPlane(long[] plane, int offset, Rect r) {
-            return sumBy(across.now, down.now, plane, offset, r);
+        long sumWhenSaved(Saved begun, int good, Rect r) {
+            return sumBy(across.now, down.now, begun.units, good * PLANE, r);
         }
 
         long sumBy(Cuts xs, Cuts ys, long[] plane, int offset, Rect r) {
@@ -1091,7 +1092,10 @@ public final class StockGrid {
         long left;
         long reached;
         long most;
-        final boolean[] clear = new boolean[MOST_BORDERS];
+        /** Of each band of columns the first row from which it is clear down to where we are. */
+        final int[] clearFrom = new int[MOST_BORDERS];
+        final int[] begunLeft = new int[MOST_BORDERS];
+        final int[] begunTop = new int[MOST_BORDERS];
         /** Of field (i, j): units in a column of band i ahead of band j. */
         final long[] above = new long[PLANE];
         final long[] inColumn = new long[MOST_BORDERS];
@@ -1172,7 +1176,7 @@ public final class StockGrid {
             for (int i = within.bandOf(low); i < within.size; i++) {
                 long each = floor.unitsAt(good, field(order, band, i));
                 int first = Math.max(low, within.from[i]);
-                long cells = within.endOf(i) - first;
+                long cells = within.from[i + 1] - first;
                 if (each < 1 || rest > each * cells) {
                     rest -= each * cells;
                     reached += each < 1 ? 0 : cells;
@@ -1216,7 +1220,7 @@ public final class StockGrid {
             long haul = already;
             for (int band = 0; band < bands.size && haul <= MOST_UNITS; band++) {
                 measureWhole(good, order, band);
-                long way = distances(bands.from[band], bands.endOf(band) - 1, to);
+                long way = distances(bands.from[band], bands.from[band + 1] - 1, to);
                 if (way > 0 && inLine > (MOST_UNITS - haul) / way) {
                     haul = MOST_UNITS + 1;
                 } else {
@@ -1337,55 +1341,60 @@ public final class StockGrid {
 
         /** False: no cell is empty. A largest hole can't grow, so all its sides are borders. */
         boolean findHole() {
+            Cuts xs = floor.across.now;
             Cuts ys = floor.down.now;
             most = 0;
-            for (int top = 0; top < ys.size; top++) {
-                clearAll();
-                boolean goesOn = true;
-                for (int bottom = top; bottom < ys.size && goesOn; bottom++) {
-                    goesOn = clearBand(bottom);
-                    takeHoles(ys.from[top], ys.endOf(bottom) - 1);
+            for (int i = 0; i < xs.size; i++) {
+                clearFrom[i] = 0;
+            }
+            for (int j = 0; j < ys.size; j++) {
+                for (int i = 0; i < xs.size; i++) {
+                    if (floor.unitsAt(NONE, MOST_BORDERS * j + i) > 0) {
+                        clearFrom[i] = ys.from[j + 1];
+                    }
                 }
+                takeHolesAbove(ys.from[j + 1] - 1);
             }
             return most > 0;
         }
 
-        void clearAll() {
-            for (int i = 0; i < clear.length; i++) {
-                clear[i] = true;
-            }
-        }
-
-        /** Columns that have something in that band are clear no more; false: none is. */
-        boolean clearBand(int band) {
-            boolean some = false;
-            for (int i = 0; i < floor.across.now.size; i++) {
-                clear[i] = clear[i] && floor.unitsAt(NONE, MOST_BORDERS * band + i) == 0;
-                some = some || clear[i];
-            }
-            return some;
-        }
-
-        void takeHoles(int top, int bottom) {
+        /**
+         * From left to right: a hole is begun where columns are clear from further up, and ends
+         * where they are not. Those begun stand in a heap, each from further up than the last.
+         */
+        void takeHolesAbove(int bottom) {
             Cuts xs = floor.across.now;
-            int first = 0;
-            for (int i = 0; i < xs.size; i++) {
-                if (!clear[i]) {
-                    first = i + 1;
-                } else if (i + 1 == xs.size || !clear[i + 1]) {
-                    takeHole(xs.from[first], top, xs.endOf(i) - 1, bottom);
+            int begun = 0;
+            for (int i = 0; i <= xs.size; i++) {
+                int top = i < xs.size ? clearFrom[i] : bottom + 1;
+                int left = xs.from[i];
+                while (begun > 0 && begunTop[begun - 1] < top) {
+                    begun--;
+                    left = begunLeft[begun];
+                    takeHole(left, begunTop[begun], xs.from[i] - 1, bottom);
+                }
+                boolean isBegun = begun > 0 && begunTop[begun - 1] == top;
+                if (top <= bottom && !isBegun && begun < begunTop.length) {
+                    begunLeft[begun] = left;
+                    begunTop[begun] = top;
+                    begun++;
                 }
             }
         }
 
-        /** Those come by their top, then by their bottom. */
         void takeHole(int left, int top, int right, int bottom) {
             long cells = (long) (right - left + 1) * (bottom - top + 1);
-            boolean first = top == hollow.y1 && left < hollow.x1;
-            if (cells > most || (cells == most && first)) {
+            if (cells > most || (cells == most && isAheadOfHole(left, top, bottom))) {
                 most = cells;
                 hollow.set(left, top, right, bottom);
             }
+        }
+
+        boolean isAheadOfHole(int left, int top, int bottom) {
+            if (top != hollow.y1) {
+                return top < hollow.y1;
+            }
+            return left != hollow.x1 ? left < hollow.x1 : bottom < hollow.y2;
         }
     }
 

@@ -43,6 +43,9 @@ public final class ModelTest {
         final List<String> told = new ArrayList<>();
         /** How often an argument is a wild one. */
         final int wild;
+        /** Few are cancelled: more than 40 acts come to stand. */
+        final boolean calm;
+        final boolean withoutZones;
         boolean bad = false;
 
         Run(int seed, int side) {
@@ -50,6 +53,8 @@ public final class ModelTest {
             this.side = side;
             random = new Random(seed);
             wild = random.nextBoolean() ? 60 : 400;
+            calm = random.nextBoolean();
+            withoutZones = random.nextBoolean();
         }
 
         void go() {
@@ -164,6 +169,11 @@ public final class ModelTest {
             int g = good();
             int[] r = rect();
             int which = random.nextInt(100);
+            boolean isOpening = which >= 67 && which < 90;
+            boolean isZone = which >= 62 && which < 67;
+            if ((isOpening && calm && random.nextInt(8) != 0) || (isZone && withoutZones)) {
+                which = random.nextInt(62);
+            }
             if (which < 30) {
                 int v = someV();
                 due("add", grid.add(g, r[0], r[1], r[2], r[3], v),

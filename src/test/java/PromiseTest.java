@@ -1125,6 +1125,11 @@ public final class PromiseTest {
         due("one more at the depot", y.depot(0, 2), TOP);
         y.add(0, 0, 5_000, 0, 5_000, 1);
         due("one above", y.depot(0, 2), -6);
+        StockGrid both = world(10_000, 2, 1_000_000_000_000L);
+        for (int i = 0; i < 60; i++) {
+            both.add(0, 0, 0, 9_999, 1, 1_000_000_000);
+        }
+        due("the greatest across, some down", both.depot(0, 2), -6);
     }
 
     private static void window() {
