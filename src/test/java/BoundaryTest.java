@@ -184,13 +184,17 @@ public final class BoundaryTest {
 
     private static String bordersOf(StockGrid x, int axis) {
         StringBuilder told = new StringBuilder();
-        for (int i = 0; i < x.borders(axis, 0); i++) {
+        int many = x.borders(axis, 0);
+        for (int i = 0; i < many; i++) {
             told.append(i == 0 ? "" : " ").append(x.border(axis, i));
         }
         return told.toString();
     }
 
-    /** All that calls can tell of an object; at its end all that is open is cancelled. */
+    /**
+     * All that calls can tell of an object, in no more of them than it has left; at its end all
+     * that is open is cancelled.
+     */
     private static String stateOf(StockGrid x) {
         StringBuilder told = new StringBuilder();
         for (int what = 0; what < 7; what++) {
@@ -199,7 +203,8 @@ public final class BoundaryTest {
         for (int axis = 0; axis < 2; axis++) {
             told.append(bordersOf(x, axis)).append(" late ").append(x.borders(axis, 1)).append('\n');
         }
-        for (int i = 0; i < x.count(4); i++) {
+        int acts = (int) x.count(4);
+        for (int i = 0; i < acts; i++) {
             for (int what = 0; what < 7; what++) {
                 told.append(x.act(i, what)).append(' ');
             }
@@ -210,13 +215,13 @@ public final class BoundaryTest {
             }
         }
         tellCells(x, told);
-        while (x.count(3) > 0) {
+        for (int open = (int) x.count(3); open > 0; open--) {
             for (int good = 0; good < 3; good++) {
-                told.append(x.before((int) x.count(3) - 1, good, 0, 0, 4, 3)).append(' ');
+                told.append(x.before(open - 1, good, 0, 0, 4, 1)).append(' ');
             }
             told.append(x.cancel()).append(' ').append(x.count(4)).append('\n');
-            tellCells(x, told);
         }
+        tellCells(x, told);
         told.append(x.fault(0)).append(' ').append(x.fault(1)).append(' ').append(x.fault(2)).append(' ');
         told.append(x.run((int) x.count(5))).append(' ').append(x.fault(1));
         return told.toString();
@@ -743,6 +748,14 @@ public final class BoundaryTest {
         due("(5, 3)", x.at(0, 5, 3), 2);
         due("(2, 4)", x.at(0, 2, 4), 1);
         due("one cell is as it was", x.level(0, 5, 3, 5, 3), 2);
+        x.add(0, 2, 4, 2, 4, 1);
+        due("a row's first: nine over", x.level(0, 2, 2, 5, 4), 1);
+        due("(2, 4)", x.at(0, 2, 4), 2);
+        due("(3, 4)", x.at(0, 3, 4), 1);
+        x.add(1, 7, 5, 7, 5, 9);
+        due("a column: three over", x.level(1, 7, 0, 7, 5), 1);
+        due("(7, 2)", x.at(1, 7, 2), 2);
+        due("(7, 3)", x.at(1, 7, 3), 1);
         of(6, "what each CELL has at least: 0");
         StockGrid y = grid(8, 6, 1000);
         due("of none", y.level(0, 0, 0, 7, 5), 0);
@@ -829,6 +842,7 @@ public final class BoundaryTest {
         due("1,999 over", x.level(0, 0, 0, 49, 39), 0);
         due("H is none", bordersOf(x, 1), "0 4 5 20 21 22 23 24 30 39");
         due("x and 1", bordersOf(x, 0), "0 10 20 49");
+        levelBordersOfOne();
         of(6, "-4 there would be more than 48 BORDERS of an axis");
         StockGrid y = new StockGrid();
         fillAcross(y, 100, 4, 47);
@@ -847,6 +861,23 @@ public final class BoundaryTest {
         z.add(0, 0, 61, 0, 99, 1);
         due("some over: y and y and 1 are two more", z.level(0, 0, 61, 3, 99), -4);
         levelOrderOfBorders();
+    }
+
+    private static void levelBordersOfOne() {
+        StockGrid x = grid(50, 40, 100);
+        x.add(0, 0, 0, 49, 39, 1);
+        x.add(0, 29, 39, 49, 39, 1);
+        x.pick(0, 30, 39, 49, 39, 40);
+        due("of one over, ahead of it", bordersOf(x, 0) + ", " + bordersOf(x, 1), "0 29 30 49, 0 39");
+        x.level(0, 10, 20, 29, 39);
+        due("one over, across", bordersOf(x, 0), "0 10 11 29 30 49");
+        due("one over, down", bordersOf(x, 1), "0 20 21 39");
+        StockGrid y = grid(50, 40, 100);
+        y.add(0, 10, 20, 19, 20, 1);
+        y.add(0, 10, 20, 10, 20, 1);
+        due("eleven over", y.level(0, 10, 20, 19, 29), 0);
+        due("a row's first, across", bordersOf(y, 0), "0 10 11 20");
+        due("a row's first, down", bordersOf(y, 1), "0 20 21 22 30");
     }
 
     private static void levelOrderOfBorders() {
@@ -1174,8 +1205,18 @@ public final class BoundaryTest {
         due("what is behind it was not done", x.sum(0, 0, 0, 7, 5), 93);
         due("the last is refused", tellText(x, "cancel; cancel;"), 1);
         due("by a code", x.fault(2), -8);
+        due("each number in its place", tellText(x, "add 1 5 2 6 4 3; pick 1 6 3 6 4 4; add 1 5 3 5 4 - 2;"), 3);
+        due("good 1", x.sum(1, 0, 0, 7, 5), 18 - 4 - 4);
+        due("(6, 4) keeps two", x.at(1, 6, 4), 2);
+        due("(5, 3) has one", x.at(1, 5, 3), 1);
+        due("(5, 2) has three", x.at(1, 5, 2), 3);
         due("what is less than nothing", tellText(x, "add 0 0 0 7 5-2;"), 0);
         due("by a code", x.fault(2), -5);
+        of(13, "30 ACTS that have numbers");
+        due("all", tellText(x, "add 2 7 5 7 5 1;".repeat(8) + "pick 2 7 5 7 5 1;".repeat(7)
+                + "add 2 6 5 6 5 1;".repeat(8) + "pick 2 6 5 6 5 1;".repeat(6) + "add 0 6 1 6 1-2;"), 30);
+        due("good 2", x.at(2, 7, 5) * 100 + x.at(2, 6, 5), 102);
+        due("the last of them", x.at(0, 6, 1), 0);
         of(13, "Whether a RECTANGLE is in THE GRID is asked as it is done");
         due("X2 is W", tellText(x, "begin; add 0 0 0 8 5 1; begin;"), 1);
         due("by a code", x.fault(2), -2);
@@ -1244,7 +1285,8 @@ public final class BoundaryTest {
     private static void textWords() {
         of(14, "Words (a to z, as long as they go on)");
         for (String word : new String[] {"a", "z", "ad", "adds", "pic", "picks", "begi", "begins", "commi", "commits",
-                "cance", "cancels", "move", "level", "zone", "world", "Begin", "bEGIN", "addpick", "cancelcancel"}) {
+                "cance", "cancels", "move", "level", "zone", "world", "Begin", "bEGIN", "addpick", "cancelcancel", "odd", "kick", "vegin", "vommit", "dancel", "addz", "beginz",
+                "beginning", "zadd", "acd", "pink", "beginadd"}) {
             faulty("begin; " + word + " 0 0 0 0 0 1;", 1, 7);
         }
         faulty("begin begin;", 1, 6);
@@ -1671,6 +1713,19 @@ public final class BoundaryTest {
         badGoodsAndNone((g, good) -> g.touched(good, 0, 0, 7, 5, 0));
         badRects((g, x1, y1, x2, y2) -> g.touched(2, x1, y1, x2, y2, 1));
         badRects((g, x1, y1, x2, y2) -> g.touched(2, x1, y1, x2, y2, 0));
+        of(26, "would take some from: over fields of many kinds");
+        StockGrid z = grid(8, 6, 100);
+        z.add(0, 0, 0, 7, 1, 1);
+        z.add(0, 3, 1, 3, 1, 4);
+        z.add(0, 6, 4, 7, 5, 3);
+        due("a cell of 1", z.touched(0, 0, 0, 7, 5, 8), 8);
+        due("the cells of 1 ahead of it", z.touched(0, 0, 0, 7, 5, 12), 12);
+        due("the same cell", z.touched(0, 0, 0, 7, 5, 16), 12);
+        due("behind it", z.touched(0, 0, 0, 7, 5, 17), 13);
+        due("over empty rows", z.touched(0, 0, 0, 7, 5, 21), 17);
+        due("all", z.touched(0, 0, 0, 7, 5, 32), 20);
+        due("from its second row on", z.touched(0, 1, 1, 7, 5, 14), 8);
+        due("one more", z.touched(0, 1, 1, 7, 5, 15), 9);
         of(26, "all CELLS of the greatest GRID");
         StockGrid y = grid(10_000, 10_000, CAP);
         for (int i = 0; i < 30; i++) {
@@ -1824,6 +1879,7 @@ public final class BoundaryTest {
         due("within a field", windowOf(grid8(), 2, 2), "1 1 12");
         due("as wide as a field", windowOf(grid8(), 4, 3), "1 1 36");
         due("wider than a field", windowOf(grid8(), 5, 4), "0 0 36");
+        windowOfMany();
         of(29, "the most that there can be");
         StockGrid y = grid(10_000, 10_000, CAP);
         for (int i = 0; i < 30; i++) {
@@ -1832,6 +1888,28 @@ public final class BoundaryTest {
         due("all", windowOf(y, 10_000, 10_000), "0 0 " + TOP);
         y.add(0, 0, 0, 0, 0, -1);
         due("beside the first", windowOf(y, 9_999, 10_000), "1 0 " + (TOP - 300_000_000_000_000L));
+    }
+
+    private static void windowOfMany() {
+        of(29, "the most UNITS among as many BORDERS as there can be");
+        StockGrid x = grid(100, 100, 100);
+        for (int at = 1; at < 48; at++) {
+            x.add(0, 2 * at, 2 * at, 99, 99, 1);
+        }
+        due("48 across, 48 down", x.borders(0, 0) * 100 + x.borders(1, 0), 4848);
+        due("within the last field", windowOf(x, 3, 4), "94 94 564");
+        due("wider than it", windowOf(x, 8, 6), "92 94 " + (6 * 47 * 6 + 2 * 46 * 6));
+        due("all", windowOf(x, 100, 100).substring(0, 4), "0 0 ");
+        x.add(0, 88, 92, 89, 93, 50);
+        due("at the last but some", windowOf(x, 1, 1), "88 92 94");
+        StockGrid y = grid(8, 6, 100);
+        y.add(0, 0, 1, 0, 1, 1);
+        y.add(0, 0, 3, 0, 4, 2);
+        due("in the first columns", windowOf(y, 1, 2), "0 3 4");
+        due("in the first columns, higher", windowOf(y, 2, 4), "0 1 5");
+        due("W by H behind others", windowOf(y, 8, 6), "0 0 5");
+        due("1 by 1 behind that", windowOf(y, 1, 1), "0 3 2");
+        due("another good behind that", y.window(1, 7, 5, 0) * 10 + y.window(1, 7, 5, 1), 0);
     }
 
     private static StockGrid grid8() {
