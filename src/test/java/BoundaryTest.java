@@ -98,6 +98,8 @@ public final class BoundaryTest {
         actForgotten();
         count();
         refusedChangeNothing();
+        fullOfBorders();
+        allSmallGrids();
         tell();
     }
 
@@ -2220,5 +2222,155 @@ public final class BoundaryTest {
         StockGrid x = new StockGrid();
         full.on(x);
         due("48", x.borders(0, 0), 48);
+    }
+
+    /** 48 borders of both axes, each cell a field of its own; then a small grid in its place. */
+    private static void fullOfBorders() {
+        StockGrid x = grid(48, 48, 100);
+        for (int at = 0; at < 48; at++) {
+            x.add(0, at, at, at, at, 1);
+        }
+        of(31, "48 at most of each axis");
+        due("48 and 48", x.borders(0, 0) * 100 + x.borders(1, 0), 4848);
+        due("none came late", x.borders(0, 1) + x.borders(1, 1), 0);
+        of(22, "among 48 BORDERS of each axis");
+        due("hole", holeOf(x), "24 0 47 23 576");
+        of(24, "among 48 BORDERS of each axis");
+        due("rows", x.find(0, 0, 48), 2_303);
+        due("columns", x.find(0, 1, 47), 2_254);
+        of(28, "among 48 BORDERS of each axis");
+        due("x, y", x.depot(0, 0) * 100 + x.depot(0, 1), 2323);
+        due("HAUL", x.depot(0, 2), 1_152);
+        of(29, "among 48 BORDERS of each axis");
+        due("the first of 48", windowOf(x, 1, 1), "0 0 1");
+        due("the first of 47", windowOf(x, 2, 2), "0 0 2");
+        of(30, "among 48 BORDERS of each axis");
+        due("the first of 48", x.line(0, 0, 0) * 100 + x.line(0, 1, 0), 0);
+        x.add(0, 47, 47, 47, 47, 1);
+        due("the last", x.line(0, 0, 0) * 100 + x.line(0, 1, 0), 4747);
+        of(5, "no BORDER comes, as there are 48");
+        due("move of all but a row and a column", x.move(0, 1, 1, 47, 47, -1, -1), 48);
+        due("the last cell", x.at(0, 47, 47), 0);
+        due("the last but one", x.at(0, 46, 46), 2);
+        of(6, "no BORDER comes, as there are 48");
+        due("level", x.level(0, 0, 0, 47, 47), 0);
+        due("the first row and one", x.ahead(0, 0, 2, 1), 49);
+        of(2, "all CELLS are empty, whatever there was");
+        x.add(0, 0, 0, 47, 47, 9);
+        x.world(8, 6, 100);
+        x.add(0, 2, 2, 3, 3, 1);
+        smallBehindGreat(x);
+        of(5, "Refused calls change nothing");
+        x.zone(0, 5, 0, 7, 5, 0);
+        due("two BORDERS more, but -9", x.move(0, 2, 2, 3, 3, 3, 2), -9);
+        x.add(0, 2, 2, 3, 3, 1);
+        x.add(0, 2, 2, 3, 3, -1);
+        smallBehindGreat(x);
+        of(29, "W by H: there is but one");
+        x.zone(0, 0, 0, 7, 5, TOP);
+        x.add(0, 0, 5, 7, 5, 5);
+        due("window", windowOf(x, 8, 6), "0 0 44");
+        due("W by 5: there are two", windowOf(x, 8, 5), "0 1 44");
+        due("1 by 1: there are 48", windowOf(x, 1, 1), "0 5 5");
+        due("W by 4: there are three", windowOf(x, 8, 4), "0 2 44");
+        of(31, "BORDERS those at 0, none LATE");
+        x.world(60, 60, 100);
+        x.add(0, 50, 50, 59, 59, 1);
+        x.add(0, 50, 50, 59, 59, 1);
+        due("late", x.borders(0, 1) + x.borders(1, 1), 0);
+    }
+
+    private static void smallBehindGreat(StockGrid x) {
+        due("borders", bordersOf(x, 0) + ", " + bordersOf(x, 1), "0 2 4, 0 2 4");
+        due("late", x.borders(0, 1) + x.borders(1, 1), 0);
+        due("hole", holeOf(x), "4 0 7 5 24");
+        due("lines", x.line(0, 0, 0) * 100 + x.line(0, 1, 0), 202);
+        due("their units", x.line(0, 0, 1) * 100 + x.line(0, 1, 1), 202);
+        due("depot", x.depot(0, 0) * 100 + x.depot(0, 1), 202);
+        due("HAUL", x.depot(0, 2), 4);
+        due("window", windowOf(x, 3, 3), "1 1 4");
+        due("the last unit", x.find(0, 0, 4) * 100 + x.find(0, 1, 4), 2727);
+        due("no more", x.find(0, 0, 5) + x.find(0, 1, 5), -2);
+    }
+
+    /** All ways in which some cells of a small grid have a unit each. */
+    private static void allSmallGrids() {
+        for (int cells = 0; cells < 1 << 12; cells++) {
+            StockGrid x = grid(4, 3, 1);
+            for (int i = 0; i < 12; i++) {
+                if ((cells >> i & 1) == 1) {
+                    x.add(0, i % 4, i / 4, i % 4, i / 4, 1);
+                }
+            }
+            of(22, "the most CELLS, of like ones the first by Y1, then X1, then Y2, of grid " + cells);
+            due("hole", holeOf(x), holeByHand(cells));
+            of(29, "the most UNITS, of like ones the first by Y1, then X1, of grid " + cells);
+            for (int size = 0; size < 12; size++) {
+                due("window " + size, windowOf(x, 1 + size % 4, 1 + size / 4),
+                        windowByHand(cells, 1 + size % 4, 1 + size / 4));
+            }
+            of(28, "of like ones the least x, the least y, of grid " + cells);
+            due("depot", x.depot(0, 0) + " " + x.depot(0, 1) + " " + x.depot(0, 2), depotByHand(cells));
+        }
+    }
+
+    private static int unitsIn(int cells, int x1, int y1, int x2, int y2) {
+        int units = 0;
+        for (int y = y1; y <= y2; y++) {
+            for (int x = x1; x <= x2; x++) {
+                units += cells >> (4 * y + x) & 1;
+            }
+        }
+        return units;
+    }
+
+    private static String holeByHand(int cells) {
+        int most = 0;
+        String best = "-1 -1 -1 -1 -1";
+        for (int i = 0; i < 12; i++) {
+            for (int y2 = i / 4; y2 < 3; y2++) {
+                for (int x2 = i % 4; x2 < 4; x2++) {
+                    int many = (x2 - i % 4 + 1) * (y2 - i / 4 + 1);
+                    if (many > most && unitsIn(cells, i % 4, i / 4, x2, y2) == 0) {
+                        most = many;
+                        best = i % 4 + " " + i / 4 + " " + x2 + " " + y2 + " " + many;
+                    }
+                }
+            }
+        }
+        return best;
+    }
+
+    private static String windowByHand(int cells, int a, int b) {
+        int most = -1;
+        String best = "";
+        for (int y = 0; y + b <= 3; y++) {
+            for (int x = 0; x + a <= 4; x++) {
+                int units = unitsIn(cells, x, y, x + a - 1, y + b - 1);
+                if (units > most) {
+                    most = units;
+                    best = x + " " + y + " " + units;
+                }
+            }
+        }
+        return best;
+    }
+
+    private static String depotByHand(int cells) {
+        int least = HIGH;
+        String best = "-1 -1 -1";
+        for (int x = 0; x < 4 && cells != 0; x++) {
+            for (int y = 0; y < 3; y++) {
+                int haul = 0;
+                for (int i = 0; i < 12; i++) {
+                    haul += (cells >> i & 1) * (Math.abs(i % 4 - x) + Math.abs(i / 4 - y));
+                }
+                if (haul < least) {
+                    least = haul;
+                    best = x + " " + y + " " + haul;
+                }
+            }
+        }
+        return best;
     }
 }
