@@ -49,8 +49,8 @@ public final class StockGrid {
 
     private static final int MOVE_SCALE = 100_000;
 
-    private final Floor floor = new Floor();
-    private final Survey survey = new Survey(floor);
+    private final Survey survey = new Survey();
+    private final Floor floor = survey.floor;
     private final Standing standing = new Standing();
     private final Script script = new Script();
     private final Rect asked = new Rect();
@@ -1080,9 +1080,9 @@ public final class StockGrid {
         }
     }
 
-    /** Looks for a place on the floor; what it found stands in its fields. */
+    /** The floor and what looks for a place on it; what it found stands in its fields. */
     private static final class Survey {
-        final Floor floor;
+        final Floor floor = new Floor();
         final Rect hollow = new Rect();
         /** Units in one line of the band that was measured last, and its cells that have any. */
         long inLine;
@@ -1102,10 +1102,6 @@ public final class StockGrid {
         final long[] columnsAhead = new long[MOST_BORDERS];
         final int[] startsAcross = new int[MOST_STARTS];
         final int[] startsDown = new int[MOST_STARTS];
-
-        Survey(Floor its) {
-            floor = its;
-        }
 
         /** The bands of lines that an order goes through one by one. */
         Cuts outer(int order) {
